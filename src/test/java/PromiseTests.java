@@ -38,6 +38,7 @@ public final class PromiseTests {
         melt();
         meltRefused();
         meltSafe();
+        meltUnlike();
         over();
         differ();
         build();
@@ -397,9 +398,11 @@ public final class PromiseTests {
         x = eitherMoves(0, 1);
         due("either moves", x.put(0, 4), 2);
         dueWrites("the lesser number, the higher one", x, 0, 0, 4, 1);
+        dueRow("where it stood is free", x, 0, 0, 4, 1, -2, -2, -2);
         x = eitherMoves(1, 0);
         due("either moves", x.put(0, 4), 2);
         dueWrites("the lesser number, the lower one", x, 0, 5, 4, 4);
+        dueRow("where it stood is free", x, 0, -2, -2, -2, 1, 4, 0);
         x = new MatchRows();
         x.rule(4, 31, 9, 1);
         x.rule(5, 31, 1, 1);
@@ -958,6 +961,47 @@ public final class PromiseTests {
         dueWrites("as it was", x, 2, 2);
         x.strike(0, 0);
         due("without the middle one they melt", x.melt(0, 1, 2), 1);
+        x = new MatchRows();
+        x.rule(1, 31, 9, 1);
+        x.rule(0, 31, 1, 1);
+        x.rule(0, 31, 5, 2);
+        x.put(0, 0);
+        x.put(0, 2);
+        x.put(0, 1);
+        due("key 0 would be judged by another act", x.melt(0, 0, 1), -2);
+        x = new MatchRows();
+        x.rule(30, 31, 9, 1);
+        x.rule(31, 31, 1, 1);
+        x.rule(31, 31, 5, 2);
+        x.put(0, 0);
+        x.put(0, 2);
+        x.put(0, 1);
+        due("key 31 would be judged by another act", x.melt(0, 0, 1), -2);
+    }
+
+    /** All would be judged as before and be safe: it is the masks, the acts that are not alike. */
+    private static void meltUnlike() {
+        MatchRows x = new MatchRows();
+        x.rule(4, 30, 9, 1);
+        x.rule(6, 31, 1, 1);
+        x.rule(7, 31, 1, 1);
+        x.put(0, 0);
+        x.put(0, 1);
+        x.put(0, 2);
+        due("unlike masks", x.melt(0, 0, 1), -2);
+        due("like ones", x.melt(0, 1, 2), 1);
+        due("now these are alike", x.melt(0, 0, 1), 0);
+        x = new MatchRows();
+        x.rule(5, 31, 9, 3);
+        x.rule(4, 31, 5, 1);
+        x.rule(5, 31, 1, 2);
+        x.put(0, 0);
+        x.put(0, 1);
+        x.put(0, 2);
+        due("unlike acts", x.melt(0, 1, 2), -2);
+        x.act(2, 1);
+        due("like ones", x.melt(0, 1, 2), 1);
+        due("the highest one judges as before", x.judged(0, 5), 3);
     }
 
     // ---- promise 22
@@ -1031,12 +1075,24 @@ public final class PromiseTests {
         due("undone in one", x.undo(), left - 1);
         dueRow("undone", x, 1, -2, -2, -2, -2, -2, -2);
         due("the table it is built of stays", x.count(1), 5);
+        x = farTable();
+        x.last(1);
+        x.put(0, 15);
+        due("a full table", x.build(0), 6);
+        due("all six stand there", x.count(2), 6);
+        for (int p = 1; p < 6; p++) {
+            due("the higher first", x.higher(x.at(1, p - 1), x.at(1, p)), 1);
+        }
+        due("they judge alike", x.differ(), 0);
         x.places(3);
         x.last(1);
         x.rule(4, 31, 1, 1);
         x.put(1, 0);
         x.put(1, 1);
         due("the other is empty, so this is not built of", x.build(0), -2);
+        x.put(0, 1);
+        due("one is enough", x.build(1), -2);
+        x.strike(0, 1);
         due("build(1)", x.build(1), 2);
         dueRow("built", x, 0, 1, 0, -2, -1);
     }
@@ -1093,6 +1149,9 @@ public final class PromiseTests {
         due("the latest is 0", x.count(4), 0);
         for (int left = 19; left >= 0; left--) {
             due("undo()", x.undo(), left);
+            due("live", x.count(4), left % 2);
+            dueRow("the tables are not touched", x, 0, 0, -2);
+            dueTold("the rule is not touched", x, 0, 0, 0, 31, 1, 1, 0, -1);
         }
         due("the older ones stay", x.undo(), -2);
         due("the put stays", x.at(0, 0), 0);
