@@ -198,11 +198,12 @@ public final class MatchRows {
 
     /** Promise 13. */
     public int write(int i, int what) {
-        if (i < -1 || i >= latest.length() || what < 0 || what > 1) {
-            return BAD;
-        }
+        // How many there are is asked by the first number alone: the other one is not looked at.
         if (i == -1) {
             return latest.length();
+        }
+        if (i < 0 || i >= latest.length() || what < 0 || what > 1) {
+            return BAD;
         }
         return what == 0 ? latest.ruleOf(i) : latest.placeOf(i);
     }

@@ -369,10 +369,10 @@ final class Model {
     }
 
     int write(int i, int what) {
-        if (!in(what, 0, 1) || !in(i, -1, latest.size() - 1)) {
-            return -1;
+        if (i == -1) {
+            return latest.size();
         }
-        return i == -1 ? latest.size() : latest.get(i)[what];
+        return in(what, 0, 1) && in(i, 0, latest.size() - 1) ? latest.get(i)[what] : -1;
     }
 
     int strike(int t, int r) {

@@ -210,7 +210,7 @@ public final class ModelTests {
         switch (dice.nextInt(9)) {
             case 0: said("writes", rows.writes(t, r), model.writes(t, r), t, r); break;
             case 1: {
-                int i = odd(dice.nextInt(5) - 1), what = below(2);
+                int i = odd(dice.nextInt(5) - 1), what = below(3);
                 said("write", rows.write(i, what), model.write(i, what), i, what);
                 break;
             }

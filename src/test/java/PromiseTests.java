@@ -565,6 +565,7 @@ public final class PromiseTests {
     private static void write() {
         MatchRows x = new MatchRows();
         due("none yet", x.write(-1, 0), 0);
+        due("none yet: write(-1, 2)", x.write(-1, 2), 0);
         due("none yet: write(0, 0)", x.write(0, 0), -1);
         x.last(1);
         x.rule(3, 31, 5, 1);
@@ -575,9 +576,10 @@ public final class PromiseTests {
             due("write(" + wrong + ", 0)", x.write(wrong, 0), -1);
             due("write(" + wrong + ", 1)", x.write(wrong, 1), -1);
         }
-        for (int wrong : new int[] {-1, 2, LEAST, MOST}) {
+        for (int wrong : new int[] {-2, -1, 2, 3, 100, LEAST, MOST}) {
             due("write(0, " + wrong + ")", x.write(0, wrong), -1);
-            due("write(-1, " + wrong + ")", x.write(-1, wrong), -1);
+            due("write(-2, " + wrong + ")", x.write(-2, wrong), -1);
+            due("how many, whatever the other number is: write(-1, " + wrong + ")", x.write(-1, wrong), 2);
         }
     }
 
