@@ -10,7 +10,7 @@ import java.util.TreeSet;
 import java.util.regex.Pattern;
 
 /** The public face is that of the document, and the source keeps to what LANGUAGE.md leaves. */
-public final class FaceTests {
+public final class FaceTests extends Due {
     private static final String[] FACE = {"places 1", "rule 4", "last 1", "span 4", "told 2", "drop 1", "act 2",
         "overlap 2", "higher 2", "put 2", "writes 2", "write 2", "strike 2", "at 2", "judged 2", "right 1", "covered 2",
         "shown 2", "spare 2", "melt 3", "over 0", "differ 0", "build 1", "undo 0", "count 1"};
@@ -25,59 +25,59 @@ public final class FaceTests {
         face();
         nested();
         source();
-        Due.end("FaceTests");
+        end("FaceTests");
     }
 
     private static void face() {
         Class<?> c = MatchRows.class;
-        Due.holds("the class is public and final", c.getModifiers() == (Modifier.PUBLIC | Modifier.FINAL));
+        holds("the class is public and final", c.getModifiers() == (Modifier.PUBLIC | Modifier.FINAL));
         Set<String> open = new TreeSet<>();
         Set<String> names = new TreeSet<>();
         for (Method m : c.getDeclaredMethods()) {
             if (Modifier.isPublic(m.getModifiers())) {
                 open.add(m.getName() + " " + m.getParameterCount());
                 names.add(m.getName());
-                Due.holds(m + " answers an int", m.getReturnType() == int.class);
+                holds(m + " answers an int", m.getReturnType() == int.class);
                 for (Class<?> p : m.getParameterTypes()) {
-                    Due.holds(m + " takes ints", p == int.class);
+                    holds(m + " takes ints", p == int.class);
                 }
             } else {
-                Due.holds(m + " is private", Modifier.isPrivate(m.getModifiers()) || m.isSynthetic());
+                holds(m + " is private", Modifier.isPrivate(m.getModifiers()) || m.isSynthetic());
             }
         }
-        Due.holds("the public methods are those of the document", open.equals(new TreeSet<>(Set.of(FACE))));
+        holds("the public methods are those of the document", open.equals(new TreeSet<>(Set.of(FACE))));
         for (Method m : c.getDeclaredMethods()) {
-            Due.holds(m + " has a name of its own", Modifier.isPublic(m.getModifiers()) || !names.contains(m.getName()));
+            holds(m + " has a name of its own", Modifier.isPublic(m.getModifiers()) || !names.contains(m.getName()));
         }
         for (Constructor<?> k : c.getDeclaredConstructors()) {
-            Due.holds(k + " is that of the document", Modifier.isPublic(k.getModifiers()) && k.getParameterCount() == 0);
+            holds(k + " is that of the document", Modifier.isPublic(k.getModifiers()) && k.getParameterCount() == 0);
         }
         Set<String> constants = Set.of("BAD", "NOT", "FULL", "CAST");
         int seen = 0;
         for (Field f : c.getDeclaredFields()) {
             boolean constant = constants.contains(f.getName());
             seen += constant ? 1 : 0;
-            Due.holds(f + " is private or of the document", constant
+            holds(f + " is private or of the document", constant
                 ? f.getModifiers() == (Modifier.PUBLIC | Modifier.STATIC | Modifier.FINAL)
                 : Modifier.isPrivate(f.getModifiers()));
-            Due.holds(f + ": static is final", !Modifier.isStatic(f.getModifiers()) || Modifier.isFinal(f.getModifiers()));
+            holds(f + ": static is final", !Modifier.isStatic(f.getModifiers()) || Modifier.isFinal(f.getModifiers()));
         }
-        Due.due("constants of the document", seen, 4);
+        due("constants of the document", seen, 4);
     }
 
     private static void nested() {
         Class<?>[] all = MatchRows.class.getDeclaredClasses();
-        Due.holds("some twelve classes at most", all.length < 12);
+        holds("some twelve classes at most", all.length < 12);
         for (Class<?> c : all) {
-            Due.holds(c + " is static", Modifier.isStatic(c.getModifiers()));
-            Due.holds(c + " is not open", !Modifier.isPublic(c.getModifiers()) && !Modifier.isProtected(c.getModifiers()));
+            holds(c + " is static", Modifier.isStatic(c.getModifiers()));
+            holds(c + " is not open", !Modifier.isPublic(c.getModifiers()) && !Modifier.isProtected(c.getModifiers()));
             int fields = 0;
             for (Field f : c.getDeclaredFields()) {
                 fields += Modifier.isStatic(f.getModifiers()) ? 0 : 1;
             }
-            Due.holds(c + " has some twenty fields at most", fields <= 20);
+            holds(c + " has some twenty fields at most", fields <= 20);
             for (Method m : c.getDeclaredMethods()) {
-                Due.holds(m + " takes seven at most", m.getParameterCount() <= 7);
+                holds(m + " takes seven at most", m.getParameterCount() <= 7);
             }
         }
     }
@@ -87,16 +87,16 @@ public final class FaceTests {
         for (int i = 0; i < text.length(); i++) {
             char sign = text.charAt(i);
             if (sign != '\n' && (sign < 32 || sign > 126)) {
-                Due.holds("sign " + (int) sign + " at " + i, false);
+                holds("sign " + (int) sign + " at " + i, false);
             }
         }
         String code = text.replaceAll("(?s)/\\*.*?\\*/", "").replaceAll("//[^\n]*", "");
         for (String word : FORBIDDEN) {
-            Due.holds("no " + word, !Pattern.compile(word).matcher(code).find());
+            holds("no " + word, !Pattern.compile(word).matcher(code).find());
         }
         for (String line : code.split("\n")) {
             if (line.startsWith("import")) {
-                Due.holds(line, line.equals("import java.util.Arrays;"));
+                holds(line, line.equals("import java.util.Arrays;"));
             }
         }
         methodLengths(code);
@@ -112,10 +112,10 @@ public final class FaceTests {
                 depth = lines[i].indexOf(lines[i].trim());
                 begin = i;
             } else if (depth > 0 && lines[i].startsWith(" ".repeat(depth) + "}")) {
-                Due.holds("the method at '" + lines[begin].trim() + "' is short", i - begin < 60);
+                holds("the method at '" + lines[begin].trim() + "' is short", i - begin < 60);
                 depth = 0;
             }
         }
-        Due.due("the end of the last method is seen", depth, 0);
+        due("the end of the last method is seen", depth, 0);
     }
 }

@@ -1,8 +1,11 @@
 import java.util.Random;
 
 /** Long runs of calls, the same each time, on the class and on the model: each answer is compared. */
-public final class ModelTests {
-    private static final int CALLS = 500;
+public final class ModelTests extends Due {
+    /** With the 132 calls that compare all, and 20 undone, an object comes to its 512th call. */
+    private static final int CALLS = 340;
+    private static final int MOST_UNDONE = 20;
+    private static final int CROWDED = 4;
     private static final int[] ODD = {-2147483648, -101, -3, -2, -1, 2, 3, 6, 7, 15, 16, 17, 31, 32, 99, 100, 2147483647};
 
     private final Random dice;
@@ -16,47 +19,52 @@ public final class ModelTests {
 
     private ModelTests(long seed) {
         dice = new Random(seed);
-        style = dice.nextInt(4);
+        style = dice.nextInt(5);
     }
 
     public static void main(String[] args) {
         int runs = args.length > 0 ? Integer.parseInt(args[0]) : 300;
-        for (long seed = 1; seed <= runs && Due.wrong() == 0; seed++) {
+        for (long seed = 1; seed <= runs && wrong() == 0; seed++) {
             new ModelTests(seed).play(seed);
         }
-        Due.end("ModelTests");
+        end("ModelTests");
     }
 
     private void play(long seed) {
         for (int i = 0; i < CALLS; i++) {
             step();
             run.append(call).append(" = ").append(got).append('\n');
-            Due.due("seed " + seed + ", call " + i + ", " + call, got, want);
+            due("seed " + seed + ", call " + i + ", " + call, got, want);
             if (got != want) {
                 System.out.println(run);
                 return;
             }
-            if (i % 50 == 49) {
-                compareAll(seed, i);
-            }
+        }
+        compareAll("seed " + seed + ", ");
+        undoAll("seed " + seed + ", undone ");
+    }
+
+    private void undoAll(String when) {
+        for (int i = 1; i <= MOST_UNDONE; i++) {
+            due(when + i + ": undo()", rows.undo(), model.undo());
+            due(when + i + ": differ()", rows.differ(), model.differ());
         }
     }
 
-    private void compareAll(long seed, int i) {
-        String when = "seed " + seed + ", behind call " + i + ", ";
+    private void compareAll(String when) {
         for (int t = 0; t < 2; t++) {
             for (int p = 0; p < 6; p++) {
-                Due.due(when + "at(" + t + ", " + p + ")", rows.at(t, p), model.at(t, p));
+                due(when + "at(" + t + ", " + p + ")", rows.at(t, p), model.at(t, p));
             }
-            Due.due(when + "right(" + t + ")", rows.right(t), 32);
+            due(when + "right(" + t + ")", rows.right(t), 32);
         }
         for (int r = 0; r < 16; r++) {
             for (int what = 0; what < 7; what++) {
-                Due.due(when + "told(" + r + ", " + what + ")", rows.told(r, what), model.told(r, what));
+                due(when + "told(" + r + ", " + what + ")", rows.told(r, what), model.told(r, what));
             }
         }
         for (int what = 0; what < 6; what++) {
-            Due.due(when + "count(" + what + ")", rows.count(what), model.count(what));
+            due(when + "count(" + what + ")", rows.count(what), model.count(what));
         }
     }
 
@@ -73,7 +81,7 @@ public final class ModelTests {
     }
 
     private int rank() {
-        return odd(style == 0 ? dice.nextInt(100) : dice.nextInt(4));
+        return odd(style == 0 || style == CROWDED ? dice.nextInt(100) : dice.nextInt(4));
     }
 
     private int act() {
@@ -83,7 +91,7 @@ public final class ModelTests {
     /** Few bits looked at give many rules that overlap; all bits give many that can be melted. */
     private int mask() {
         int mask = dice.nextInt(32);
-        if (style == 2) {
+        if (style == 2 || style == CROWDED && dice.nextBoolean()) {
             mask &= dice.nextInt(32);
         } else if (style == 3) {
             mask |= dice.nextInt(32) | 24;
@@ -103,7 +111,9 @@ public final class ModelTests {
 
     private void step() {
         int pick = dice.nextInt(100);
-        if (pick < 16) {
+        if (style == CROWDED && model.count(0) > 12 && pick < 80) {
+            crowd();
+        } else if (pick < 16) {
             makeRule();
         } else if (pick < 46) {
             changeTables();
@@ -113,6 +123,21 @@ public final class ModelTests {
             askRules();
         } else {
             askTables();
+        }
+    }
+
+    /** A table that is full but for a place or two: there a put takes the most writes. */
+    private void crowd() {
+        int standing = model.count(1);
+        int r = dice.nextInt(16);
+        if (standing == model.count(3)) {
+            r = model.at(0, dice.nextInt(standing));
+            said("strike", rows.strike(0, r), model.strike(0, r), 0, r);
+        } else if (standing < model.count(3) - 1 || dice.nextInt(12) > 0) {
+            said("put", rows.put(0, r), model.put(0, r), 0, r);
+        } else {
+            int rank = rank();
+            said("spare", rows.spare(0, rank), model.spare(0, rank), 0, rank);
         }
     }
 

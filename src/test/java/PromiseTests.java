@@ -1,7 +1,5 @@
 /** For each promise of the document: ordinary inputs, the edges that it names, wrong inputs. */
-public final class PromiseTests {
-    private static final int LEAST = Integer.MIN_VALUE;
-    private static final int MOST = Integer.MAX_VALUE;
+public final class PromiseTests extends Due {
     private static final int[] WRONG_TABLES = {-1, 2, LEAST, MOST};
     private static final int[] WRONG_RULES = {-1, 15, 16, LEAST, MOST};
 
@@ -9,89 +7,7 @@ public final class PromiseTests {
     }
 
     public static void main(String[] args) {
-        newObject();
-        places();
-        rule();
-        last();
-        span();
-        spanNumbers();
-        told();
-        drop();
-        act();
-        overlap();
-        higher();
-        put();
-        putLexically();
-        putFar();
-        putRefused();
-        writes();
-        write();
-        writeForgotten();
-        strike();
-        at();
-        judged();
-        right();
-        covered();
-        shown();
-        spare();
-        spareFar();
-        melt();
-        meltRefused();
-        meltSafe();
-        meltUnlike();
-        over();
-        differ();
-        build();
-        undo();
-        undoMost();
-        undoCleared();
-        undoKeepsRules();
-        count();
-        refusedChangesNothing();
-        constants();
-        Due.end("PromiseTests");
-    }
-
-    private static void due(String call, int got, int want) {
-        Due.due(call, got, want);
-    }
-
-    private static void dueRow(String when, MatchRows x, int table, int... want) {
-        for (int p = 0; p < want.length; p++) {
-            due(when + ": at(" + table + ", " + p + ")", x.at(table, p), want[p]);
-        }
-    }
-
-    private static void dueTold(String when, MatchRows x, int rule, int... want) {
-        for (int what = 0; what < want.length; what++) {
-            due(when + ": told(" + rule + ", " + what + ")", x.told(rule, what), want[what]);
-        }
-    }
-
-    /** Pairs of a rule and a place: the writes of the latest put. */
-    private static void dueWrites(String when, MatchRows x, int... want) {
-        due(when + ": write(-1, 0)", x.write(-1, 0), want.length / 2);
-        due(when + ": write(-1, 1)", x.write(-1, 1), want.length / 2);
-        for (int i = 0; i < want.length / 2; i++) {
-            due(when + ": write(" + i + ", 0)", x.write(i, 0), want[2 * i]);
-            due(when + ": write(" + i + ", 1)", x.write(i, 1), want[2 * i + 1]);
-        }
-        due(when + ": write behind the last", x.write(want.length / 2, 0), -1);
-    }
-
-    private static void dueCounts(String when, MatchRows x, int... want) {
-        for (int what = 0; what < want.length; what++) {
-            due(when + ": count(" + what + ")", x.count(what), want[what]);
-        }
-    }
-
-    /** Rules 0 .. n - 1 that fit one key each, the key of their number; of one rank, one act. */
-    private static MatchRows keys(int n, int rank, int act) {
-        MatchRows x = new MatchRows();
-        for (int i = 0; i < n; i++) {
-            x.rule(i, 31, rank, act);
-        }
-        return x;
+        runAll(PromiseTests.class);
     }
 
     // ---- promise 1
@@ -198,11 +114,15 @@ public final class PromiseTests {
         int[][] rows = {{0, 31, 1}, {0, 0, 1}, {31, 31, 1}, {0, 15, 1}, {16, 31, 1}, {1, 30, 8}, {0, 30, 5}, {1, 31, 5},
             {7, 8, 2}, {8, 15, 1}, {3, 20, 5}, {4, 11, 2}, {15, 16, 2}, {2, 29, 6}, {30, 31, 1}, {29, 30, 2}};
         for (int[] r : rows) {
-            x.places(6);
+            x = new MatchRows();
             due("span(" + r[0] + ", " + r[1] + ")", x.span(r[0], r[1], 7, 3), r[2]);
             due("so many rules", x.count(0), r[2]);
-            for (int key = 0; key < 32; key++) {
-                due("rows with key " + key, rowsWith(x, key), key >= r[0] && key <= r[1] ? 1 : 0);
+            int[] with = new int[KEYS];
+            for (int i = 0; i < r[2]; i++) {
+                addKeysOfRow(x, i, with);
+            }
+            for (int key = 0; key < KEYS; key++) {
+                due("rows with key " + key, with[key], key >= r[0] && key <= r[1] ? 1 : 0);
             }
         }
         x.places(6);
@@ -214,14 +134,12 @@ public final class PromiseTests {
         dueTold("row 4", x, 4, 1, 20, 31, 99, 15, -1, -1);
     }
 
-    private static int rowsWith(MatchRows x, int key) {
-        int with = 0;
-        for (int r = 0; r < 16; r++) {
-            if (x.told(r, 0) == 1 && (key & x.told(r, 2)) == x.told(r, 1)) {
-                with++;
-            }
+    private static void addKeysOfRow(MatchRows x, int rule, int[] with) {
+        int value = x.told(rule, 1);
+        int mask = x.told(rule, 2);
+        for (int key = 0; key < KEYS; key++) {
+            with[key] += (key & mask) == value ? 1 : 0;
         }
-        return with;
     }
 
     private static void spanNumbers() {
@@ -431,24 +349,6 @@ public final class PromiseTests {
         dueRow("fewest", x, 0, 2, 0, 1, -2);
     }
 
-    /** A higher rule at place 3, a lower one at place 2, and rule 4 that goes between them. */
-    private static MatchRows eitherMoves(int higher, int lower) {
-        MatchRows x = new MatchRows();
-        x.rule(0, 1, higher == 0 ? 9 : 1, 1);
-        x.rule(1, 1, higher == 1 ? 9 : 1, 2);
-        x.rule(0, 31, 50, 3);
-        x.rule(1, 31, 50, 3);
-        x.rule(0, 0, 5, 3);
-        x.put(0, 2);
-        x.put(0, 3);
-        x.put(0, lower);
-        x.put(0, higher);
-        x.strike(0, 2);
-        x.strike(0, 3);
-        dueRow("either moves", x, 0, -2, -2, lower, higher, -2, -2);
-        return x;
-    }
-
     /** A put that takes 12 writes, the most that any takes: each write is looked at. */
     private static void putFar() {
         MatchRows x = farTable();
@@ -464,7 +364,7 @@ public final class PromiseTests {
         for (int i = 0; i < 12; i++) {
             int r = x.write(i, 0);
             int to = x.write(i, 1);
-            Due.holds("write " + i + " goes to a free place", row[to] == -2);
+            holds("write " + i + " goes to a free place", row[to] == -2);
             for (int p = 0; p < 6; p++) {
                 row[p] = row[p] == r ? -2 : row[p];
             }
@@ -473,7 +373,7 @@ public final class PromiseTests {
                 for (int q = p + 1; q < 6; q++) {
                     boolean bad = row[p] >= 0 && row[q] >= 0 && x.overlap(row[p], row[q]) == 1
                         && x.higher(row[p], row[q]) == 2;
-                    Due.holds("safe behind write " + i, !bad);
+                    holds("safe behind write " + i, !bad);
                 }
             }
         }
@@ -482,26 +382,6 @@ public final class PromiseTests {
         due("right", x.right(0), 32);
         due("undo", x.undo(), x.count(5));
         dueRow("taken back", x, 0, before);
-    }
-
-    /** Five rules so laid that a rule of rank 15 over all keys takes 12 writes. */
-    private static MatchRows farTable() {
-        MatchRows x = new MatchRows();
-        int[][] rules = {{9, 23, 21}, {16, 31, 42}, {21, 18, 22}, {16, 27, 8}, {31, 23, 14}, {2, 7, 17}, {11, 1, 7},
-            {26, 26, 38}, {5, 12, 12}, {23, 14, 31}, {21, 7, 8}, {25, 14, 40}, {20, 30, 3}, {10, 15, 25}, {5, 2, 37}};
-        for (int i = 0; i < rules.length; i++) {
-            x.rule(rules[i][0], rules[i][1], rules[i][2], i);
-        }
-        // Rules to put, and, as -1 - rule, to strike.
-        int[] run = {8, 0, 14, -1, 10, 5, 3, -6, 11, -15, 1, -12, 0, -11, 14, -4, 13, -1, 10, -11, -9, -15, 5, 3, 8, -2, 4};
-        for (int r : run) {
-            if (r >= 0) {
-                x.put(0, r);
-            } else {
-                x.strike(0, -1 - r);
-            }
-        }
-        return x;
     }
 
     private static void putRefused() {
@@ -826,8 +706,10 @@ public final class PromiseTests {
         MatchRows x = farTable();
         due("the farthest", x.spare(0, 15), 12);
         int most = 0;
-        for (int value = 0; value < 32; value++) {
-            for (int mask = 0; mask < 32; mask++) {
+        for (int value = 0; value < KEYS; value++) {
+            // An object is used for 512 calls at most: so a new one for each value.
+            x = farTable();
+            for (int mask = 0; mask < KEYS; mask++) {
                 int r = x.rule(value, mask, 15, 0);
                 most = Math.max(most, x.writes(0, r));
                 x.drop(r);
@@ -1218,58 +1100,5 @@ public final class PromiseTests {
         for (int wrong : new int[] {-1, 6, LEAST, MOST}) {
             due("count(" + wrong + ")", x.count(wrong), -1);
         }
-    }
-
-    private static String allTold(MatchRows x) {
-        StringBuilder all = new StringBuilder();
-        for (int r = 0; r < 16; r++) {
-            for (int what = 0; what < 7; what++) {
-                all.append(x.told(r, what)).append(' ');
-            }
-        }
-        for (int t = 0; t < 2; t++) {
-            for (int p = 0; p < 6; p++) {
-                all.append(x.at(t, p)).append(' ');
-            }
-        }
-        for (int i = -1; i < 13; i++) {
-            all.append(x.write(i, 0)).append(' ').append(x.write(i, 1)).append(' ');
-        }
-        for (int what = 0; what < 6; what++) {
-            all.append(x.count(what)).append(' ');
-        }
-        return all.toString();
-    }
-
-    private static void refusedChangesNothing() {
-        MatchRows x = farTable();
-        x.last(1);
-        x.put(0, 15);
-        String before = allTold(x);
-        x.places(1);
-        x.rule(0, 0, 0, 0);
-        x.last(0);
-        x.span(0, 31, 0, 0);
-        x.told(16, 0);
-        x.drop(15);
-        x.act(15, 3);
-        x.put(0, 0);
-        x.put(0, 15);
-        x.put(2, 0);
-        x.writes(0, 0);
-        x.writes(1, 0);
-        x.strike(0, 0);
-        x.spare(0, 3);
-        x.spare(1, 3);
-        x.melt(0, 3, 4);
-        x.build(1);
-        Due.holds("what is refused or asked changes nothing", before.equals(allTold(x)));
-    }
-
-    private static void constants() {
-        due("BAD", MatchRows.BAD, -1);
-        due("NOT", MatchRows.NOT, -2);
-        due("FULL", MatchRows.FULL, -3);
-        due("CAST", MatchRows.CAST, -13);
     }
 }
