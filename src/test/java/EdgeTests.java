@@ -354,6 +354,32 @@ public final class EdgeTests extends Due {
         due("right", x.right(0), 32);
     }
 
+    /** Five stand, and the fewest writes lead far about: of the ways none may be passed over. */
+    private static void p11TheFewestOfManyWays() {
+        MatchRows x = new MatchRows();
+        int[][] rules = {{1, 11, 2}, {2, 2, 7}, {0, 2, 7}, {0, 8, 1}, {8, 24, 9}, {0, 19, 1}, {0, 8, 4}};
+        addRules(x, rules);
+        putAll(x, 0, 1, 4, 2, 5, 6, 0);
+        x.strike(0, 4);
+        dueRow("place 0 is free", x, 0, -2, 1, 2, 6, 5, 0);
+        due("put", x.put(0, 3), 5);
+        dueWrites("not rule 1 first, which takes one more", x, 2, 0, 6, 2, 0, 3, 5, 5, 3, 4);
+        x = new MatchRows();
+        rules = new int[][] {{20, 21, 4}, {17, 25, 2}, {16, 16, 5}, {4, 5, 0}, {0, 0, 1}, {0, 0, 0}, {16, 21, 6}};
+        addRules(x, rules);
+        putAll(x, 0, 3, 6, 0, 1, 5);
+        dueRow("place 5 is free", x, 0, 0, 6, 3, 1, 5, -2);
+        due("put", x.put(0, 2), 5);
+        dueWrites("not rule 1 second, which takes one more", x, 5, 5, 3, 4, 0, 2, 6, 0, 2, 1);
+    }
+
+    /** Of a value, a mask, a rank each. */
+    private static void addRules(MatchRows x, int[][] rules) {
+        for (int[] r : rules) {
+            x.rule(r[0], r[1], r[2], 1);
+        }
+    }
+
     private static void p11NotIfItStandsThere() {
         MatchRows x = keys(2, 1, 1);
         x.put(0, 0);

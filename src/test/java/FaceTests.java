@@ -5,8 +5,11 @@ import java.lang.reflect.Method;
 import java.lang.reflect.Modifier;
 import java.nio.file.Files;
 import java.nio.file.Path;
+import java.util.IdentityHashMap;
+import java.util.Map;
 import java.util.Set;
 import java.util.TreeSet;
+import java.util.regex.Matcher;
 import java.util.regex.Pattern;
 
 /** The public face is that of the document, and the source keeps to what LANGUAGE.md leaves. */
@@ -18,12 +21,16 @@ public final class FaceTests extends Due {
         "\\bassert\\b", "->", "::", "\\bprotected\\b", "\\bvolatile\\b", "\\binterface\\b.*\\bdefault\\b", "\\bpackage\\b",
         "Exact\\(", "System\\.(?!arraycopy)", "Object\\b", "static\\s*\\{", "\\[\\]\\s*\\[\\]\\s*\\["};
 
+    private static final Set<String> LIBRARY = Set.of("Arrays.fill", "Math.max", "Math.min", "Math.floorMod",
+        "Integer.bitCount");
+
     private FaceTests() {
     }
 
-    public static void main(String[] args) throws IOException {
+    public static void main(String[] args) throws Exception {
         face();
         nested();
+        room();
         source();
         end("FaceTests");
     }
@@ -82,6 +89,36 @@ public final class FaceTests extends Due {
         }
     }
 
+    /** What an object takes of the room: objects and arrays, fields and elements. */
+    private static void room() throws IllegalAccessException {
+        MatchRows x = farTable();
+        int[] taken = new int[2];
+        measure(x, taken, new IdentityHashMap<>());
+        holds(taken[0] + " objects and arrays, some 35 at most", taken[0] > 1 && taken[0] <= 35);
+        holds(taken[1] + " fields and elements, some 2,100 at most", taken[1] > 100 && taken[1] <= 2100);
+    }
+
+    private static void measure(Object of, int[] taken, Map<Object, Object> seen) throws IllegalAccessException {
+        if (of == null || seen.put(of, of) != null) {
+            return;
+        }
+        taken[0]++;
+        if (of instanceof int[]) {
+            taken[1] += ((int[]) of).length;
+            return;
+        }
+        holds(of.getClass() + " is of the class", of.getClass().getName().startsWith("MatchRows"));
+        for (Field f : of.getClass().getDeclaredFields()) {
+            if (!Modifier.isStatic(f.getModifiers())) {
+                taken[1]++;
+                f.setAccessible(true);
+                if (!f.getType().isPrimitive()) {
+                    measure(f.get(of), taken, seen);
+                }
+            }
+        }
+    }
+
     private static void source() throws IOException {
         String text = Files.readString(Path.of("src/main/java/MatchRows.java"));
         for (int i = 0; i < text.length(); i++) {
@@ -100,6 +137,30 @@ public final class FaceTests extends Due {
             }
         }
         methodLengths(code);
+        libraryCalls(code);
+        madeOnce(code);
+    }
+
+    /** LANGUAGE.md 4 lists more; this is what the class calls. */
+    private static void libraryCalls(String code) {
+        Matcher call = Pattern.compile("\\b([A-Z]\\w*\\.\\w+)\\(").matcher(code);
+        Set<String> calls = new TreeSet<>();
+        while (call.find()) {
+            calls.add(call.group(1));
+        }
+        holds("the library that is called, " + calls, calls.equals(new TreeSet<>(LIBRARY)));
+    }
+
+    /** All calls of one run live in one room: objects and arrays are made with an object alone. */
+    private static void madeOnce(String code) {
+        int made = 0;
+        for (String line : code.split("\n")) {
+            if (line.matches(".*\\bnew\\b.*|.*\\.clone\\(.*")) {
+                made++;
+                holds("made with the object: " + line.trim(), line.matches("\\s+private final .* = new [^;]*;"));
+            }
+        }
+        holds("something is made", made > 0);
     }
 
     private static void methodLengths(String code) {

@@ -32,6 +32,61 @@ public final class TermsTests extends Due {
         due("full", x.last(0), -3);
     }
 
+    // ---- "What it is"
+
+    /** "each KEY judged rightly between any two of them": the rows are followed write by write. */
+    private static void eachKeyIsJudgedRightlyBetweenAnyTwoWrites() {
+        MatchRows far = farTable();
+        followPut(far, far.rule(0, 0, 15, 15), 12);
+        MatchRows x = nested(6, 6);
+        for (int r = 0; r < 6; r++) {
+            followPut(x, r, r + 1);
+        }
+        x.strike(0, 3);
+        followPut(x, x.last(9), 4);
+    }
+
+    private static void followPut(MatchRows x, int rule, int writes) {
+        int[][] rules = valuesMasksRanks(x);
+        int[] row = row(x, 0);
+        due("put(0, " + rule + ")", x.put(0, rule), writes);
+        for (int i = 0; i < writes; i++) {
+            int moved = x.write(i, 0);
+            for (int p = 0; p < row.length; p++) {
+                row[p] = row[p] == moved ? -2 : row[p];
+            }
+            row[x.write(i, 1)] = moved;
+            for (int key = 0; key < KEYS; key++) {
+                dueFirst("rule " + rule + ", behind write " + i + ", key " + key, rules, row, key);
+            }
+        }
+        dueRow("as the writes say", x, 0, row);
+    }
+
+    /** Asked once for each put: an object is used for 512 calls at most. */
+    private static int[][] valuesMasksRanks(MatchRows x) {
+        int[][] rules = new int[x.count(0)][];
+        for (int r = 0; r < rules.length; r++) {
+            rules[r] = new int[] {x.told(r, 1), x.told(r, 2), x.told(r, 3)};
+        }
+        return rules;
+    }
+
+    /** The first one in the row that a key fits is the highest of all that it fits. */
+    private static void dueFirst(String when, int[][] rules, int[] row, int key) {
+        int first = -1;
+        int highest = -1;
+        for (int r : row) {
+            if (r >= 0 && fits(rules[r][0], rules[r][1], key)) {
+                first = first < 0 ? r : first;
+                boolean higher = highest < 0 || rules[r][2] > rules[highest][2]
+                    || rules[r][2] == rules[highest][2] && r < highest;
+                highest = higher ? r : highest;
+            }
+        }
+        due(when + ": the rule that judges", first, highest);
+    }
+
     // ---- 1: keys, rules, tables
 
     /** "KEYS are 0 .. 31." */
@@ -435,6 +490,27 @@ public final class TermsTests extends Due {
         dueSafe("undone", x, 1);
         x.build(1);
         dueSafe("built", x, 0);
+    }
+
+    /** The same, of a table in which two are melted: the one that is left overlaps with more. */
+    private static void tablesAreSafeBehindAMelting() {
+        MatchRows x = new MatchRows();
+        x.rule(4, 31, 9, 1);
+        x.rule(5, 31, 1, 1);
+        x.rule(5, 31, 5, 1);
+        x.last(1);
+        putAll(x, 0, 0, 3, 2, 1);
+        dueRow("four stand", x, 0, 0, 2, 1, 3);
+        dueSafe("four stand", x, 0);
+        due("melt", x.melt(0, 0, 1), 0);
+        due("the one that is left overlaps with rule 2", x.overlap(0, 2), 1);
+        dueSafe("melted", x, 0);
+        x.over();
+        dueSafe("changed over", x, 0);
+        x.undo();
+        x.undo();
+        due("it overlaps no more", x.overlap(0, 2), 0);
+        dueSafe("undone", x, 0);
     }
 
     // ---- 2: writes, to put, to strike, covered, spare
